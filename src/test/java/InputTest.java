@@ -1,0 +1,358 @@
+/** Promises 1 to 5 and the text format of section 7. */
+public final class InputTest {
+    private static final Checks c = new Checks();
+
+    public static void main(String[] args) {
+        newObject();
+        append();
+        truncate();
+        emptyAndShort();
+        chamberStatements();
+        doorStatements();
+        goodsStatements();
+        palletAndOrderStatements();
+        limitsAndQuayStatements();
+        names();
+        tokens();
+        tooMany();
+        load();
+        loadOverEverything();
+        c.end("InputTest");
+    }
+
+    private static void error(String text, int due) {
+        c.same("errorPosition of \"" + text + "\"", Checks.errorIn(text), due);
+    }
+
+    private static void valid(String text) {
+        error(text, ColdStores.NONE);
+    }
+
+    /** The first error is at the sign ^, which is not part of the text. */
+    private static void at(String marked) {
+        error(marked.replace("^", ""), marked.indexOf('^'));
+    }
+
+    /** Promise 1. */
+    private static void newObject() {
+        ColdStores x = new ColdStores();
+        c.same("chamberCount", x.chamberCount(), 0);
+        c.same("goodsCount", x.goodsCount(), 0);
+        c.same("palletCount", x.palletCount(), 0);
+        c.same("orderCount", x.orderCount(), 0);
+        c.same("currentDay", x.currentDay(), 0);
+        c.same("waitingCount", x.waitingCount(), 0);
+        c.same("shippedCount", x.shippedCount(), 0);
+        c.same("discardedCount", x.discardedCount(), 0);
+        c.same("spoiledCount", x.spoiledCount(), 0);
+        c.same("undoCount", x.undoCount(), 0);
+        c.same("textLength", x.textLength(), 0);
+        c.same("the length of the buffer", x.append(0, 0, 0, 0, 0), 0);
+        c.badArgument("truncate(1)", () -> x.truncate(1));
+        c.badState("undo", x::undo);
+        c.badState("restore", x::restore);
+        c.same("advance in an empty object", x.advance(3), 0);
+        c.same("currentDay", x.currentDay(), 3);
+        c.same("autoStore in an empty object", x.autoStore(), 0);
+        c.same("undoCount", x.undoCount(), 1);
+        c.noIndex("arrive(0)", () -> x.arrive(0));
+        c.noIndex("serve(0)", () -> x.serve(0));
+        c.noIndex("setSetpoint(0, 0)", () -> x.setSetpoint(0, 0));
+    }
+
+    /** Promise 2. */
+    private static void append() {
+        ColdStores x = new ColdStores();
+        c.same("append of zeros", x.append(0, 0, 0, 0, 0), 0);
+        // "quay 4" with zero bytes within
+        c.same("append with zeros", x.append(0x71000000, 0x00750061, 0, 0x00007920, 0x00000034), 6);
+        c.same("errorPosition", x.errorPosition(), -1);
+        c.same("load", x.load(), 0);
+        c.sameText("the text", Checks.textOf(x), "quay 4");
+
+        ColdStores y = new ColdStores();
+        c.same("a negative word", y.append(0xff80fe7f, 0, 0, 0, 0x000000ff), 5);
+        c.same("its errorPosition", y.errorPosition(), 0);
+
+        ColdStores z = new ColdStores();
+        for (int i = 1; i <= 45; i++) {
+            c.same("append 20 spaces", z.append(0x20202020, 0x20202020, 0x20202020, 0x20202020,
+                    0x20202020), 20 * i);
+        }
+        c.badState("one byte more than 900", () -> z.append(0, 0, 0, 0, 0x20));
+        c.badState("a first byte more than 900", () -> z.append(0x20000000, 0, 0, 0, 0));
+        c.same("nothing more than 900", z.append(0, 0, 0, 0, 0), 900);
+        c.same("truncate", z.truncate(890), 890);
+        c.badState("11 bytes more than 889", () -> z.append(0x61616161, 0x61616161, 0x61616100, 0, 0));
+        c.same("nothing was appended", z.append(0, 0, 0, 0, 0), 890);
+        c.same("10 bytes more", z.append(0x61006161, 0x61616161, 0x61616100, 0, 0), 900);
+        c.same("errorPosition", z.errorPosition(), 890);
+    }
+
+    /** Promise 3. */
+    private static void truncate() {
+        ColdStores x = new ColdStores();
+        Checks.feed(x, "quay 4;x");
+        c.same("truncate to its length", x.truncate(8), 8);
+        c.badArgument("truncate to more", () -> x.truncate(9));
+        c.badArgument("truncate to -1", () -> x.truncate(-1));
+        c.badArgument("truncate to the least int", () -> x.truncate(Integer.MIN_VALUE));
+        c.same("kept", x.errorPosition(), 7);
+        c.same("truncate", x.truncate(6), 6);
+        c.same("valid now", x.errorPosition(), -1);
+        c.same("further bytes are put behind", Checks.feed(x, "1"), 7);
+        c.same("41", x.errorPosition(), 5);
+        c.same("truncate", x.truncate(0), 0);
+        c.same("empty", x.errorPosition(), 0);
+    }
+
+    /** Promise 4, from here on. */
+    private static void emptyAndShort() {
+        error("", 0);
+        error("   ", 3);
+        at("^;");
+        at("quay 4;^");
+        error("quay 4;  ", 9);
+        at("quay 4;^;");
+        at("quay 4 ^4");
+        at("quay 4 ^quay");
+        at("^quai 4");
+        at("^Quay 4");
+        at("^4");
+        at("^-");
+        valid("quay 4");
+        valid("  quay  4  ");
+        error("quay", 4);
+        error("quay ", 5);
+        error("quay - ", 7);
+        at(" ^k");
+    }
+
+    private static void chamberStatements() {
+        valid("chamber a 1 1 0");
+        valid("chamber abcdef 6 4 -30");
+        valid("chamber a 6 4 20");
+        at("chamber a ^0 1 0");
+        at("chamber a ^7 1 0");
+        at("chamber a ^-1 1 0");
+        at("chamber a 1 ^0 0");
+        at("chamber a 1 ^5 0");
+        at("chamber a 1 1 ^21");
+        at("chamber a 1 1 -^31");
+        at("chamber a 1 1 - ^31");
+        at("chamber a 1 1 -^-3");
+        at("chamber a 1 1 -^a");
+        at("chamber a 1 1 ^a");
+        at("chamber a 1 1 0 ^0");
+        at("chamber a 1 1 ^;");
+        error("chamber a 1 1", 13);
+        error("chamber a 1", 11);
+        error("chamber a", 9);
+        error("chamber", 7);
+        valid("chamber a 1 1 -0");
+    }
+
+    private static void doorStatements() {
+        String k = "chamber k 2 3 0;goods g 0 1 1 0 0;";
+        valid(k + "door k 0 0");
+        valid(k + "door k 1 2;door k 1 2");
+        at(k + "door k ^2 0");
+        at(k + "door k 1 ^3");
+        at(k + "door k ^-1 0");
+        at(k + "door ^g 0 0");
+        at(k + "door ^h 0 0");
+        at(k + "door ^0 0 0");
+        at(k + "door ^door 0 0");
+        at("^d");
+        at("door ^k 0 0;chamber k 2 3 0");
+        at("chamber k 1 1 0;chamber l 2 1 0;door l 1 0;door k ^1 0");
+        at("chamber k 1 1 0;chamber l 1 2 0;door l 0 1;door k 0 ^1");
+        StringBuilder many = new StringBuilder(k);
+        for (int i = 0; i < 60; i++) {
+            many.append("door k 1 1;");
+        }
+        valid(many + "quay 3");
+    }
+
+    private static void goodsStatements() {
+        valid("goods g -30 20 60 9 9");
+        valid("goods g 5 5 1 0 0");
+        valid("goods g -5 -5 1 0 0");
+        at("goods g ^21 21 1 0 0");
+        at("goods g -^31 0 1 0 0");
+        at("goods g 5 ^4 1 0 0");
+        at("goods g 5 -^5 1 0 0");
+        at("goods g -5 -^6 1 0 0");
+        valid("goods g -5 -4 1 0 0");
+        at("goods g 0 ^21 1 0 0");
+        at("goods g 0 0 ^0 0 0");
+        at("goods g 0 0 ^61 0 0");
+        at("goods g 0 0 ^-1 0 0");
+        at("goods g 0 0 1 ^10 0");
+        at("goods g 0 0 1 0 ^10");
+        at("goods g 0 0 1 0 0 ^0");
+        error("goods g 0 0 1 0", 15);
+        at("goods g 0 0 1 0 ^;goods g 0 0 1 0 0");
+    }
+
+    private static void palletAndOrderStatements() {
+        String g = "chamber k 2 3 0;goods g 0 1 1 0 0;";
+        valid(g + "pallet g;pallet g");
+        at(g + "pallet ^k");
+        at(g + "pallet ^h");
+        at(g + "pallet ^1");
+        at(g + "pallet g ^1");
+        error(g + "pallet", g.length() + 6);
+        at("pallet ^g;goods g 0 1 1 0 0");
+        valid(g + "order g 1 0;order g 9 365");
+        at(g + "order ^k 1 0");
+        at(g + "order g ^0 0");
+        at(g + "order g ^10 0");
+        at(g + "order g 1 ^366");
+        at(g + "order g 1 ^-1");
+        at(g + "order g 1 0 ^0");
+    }
+
+    private static void limitsAndQuayStatements() {
+        valid("limits 0 0");
+        valid("limits 999 999");
+        at("limits ^1000 0");
+        at("limits 0 ^1000");
+        at("limits ^-1 0");
+        at("limits 0 ^-1");
+        at("limits 1 1;^limits 1 1");
+        valid("quay -30");
+        valid("quay 40");
+        at("quay ^41");
+        at("quay -^31");
+        at("quay -^40");
+        at("quay 1;limits 1 1;^quay 1");
+        valid("quay 1;limits 1 1");
+    }
+
+    private static void names() {
+        String both = "chamber k 1 1 0;goods g 0 1 1 0 0;";
+        at("chamber ^abcdefg 1 1 0");
+        at("chamber ^1 1 1 0");
+        at("chamber ^A 1 1 0");
+        for (String word : "chamber door goods pallet order limits quay".split(" ")) {
+            at("chamber ^" + word + " 1 1 0");
+            at("goods ^" + word + " 0 0 1 0 0");
+        }
+        valid("chamber quays 1 1 0;goods doors 0 0 1 0 0;goods goodsa 0 0 1 0 0;goods palle 0 0 1 0 0");
+        at(both + "chamber ^k 1 1 0");
+        at(both + "chamber ^g 1 1 0");
+        at(both + "goods ^k 0 1 1 0 0");
+        at(both + "goods ^g 0 1 1 0 0");
+        valid(both + "goods kk 0 1 1 0 0;goods gg 0 1 1 0 0;chamber kg 1 1 0;chamber gk 1 1 0");
+        valid("chamber zzzzzz 1 1 0;goods zzzzz 0 1 1 0 0;goods z 0 1 1 0 0;pallet zzzzz;door zzzzzz 0 0");
+    }
+
+    private static void tokens() {
+        valid("limits1 1;quay-3");
+        valid("chamber a1 1-3;door a0 0");
+        valid(" limits 1 1 ; quay - 3 ");
+        at("limits 1 ^01000");
+        at("limits ^00001 1");
+        valid("limits 0001 0999");
+        at("limits 1 1^\n;quay 1");
+        at("limits 1^\t1");
+        at("limits 1 1^\u00a0");
+        at("limits 1 1^\u00ff");
+        at("limits ^one 1");
+        at("limits ^99999999999999999999 1");
+        at("limits 1^.5 1");
+        at("quay ^+4");
+        at("quay 4^,quay 4");
+        at("^quayquay 4");
+        at("limits 1 1^q");
+        at("limits 1 1 ^99999");
+        at("^{");
+        at("^`");
+        at("^/");
+        at("limits ^: 1");
+    }
+
+    private static void tooMany() {
+        String chambers = "chamber a 1 1 0;chamber b 1 1 0;chamber c 1 1 0";
+        valid(chambers);
+        at(chambers + ";^chamber d 1 1 0");
+        at(chambers + ";  ^chamber");
+        String goods = "goods d 0 1 1 0 0;goods e 0 1 1 0 0;goods f 0 1 1 0 0;goods g 0 1 1 0 0;"
+                + "goods h 0 1 1 0 0;goods i 0 1 1 0 0";
+        valid(goods);
+        at(goods + ";^goods j 0 1 1 0 0");
+        String pallets = goods + ";pallet d;pallet e;pallet d;pallet d;pallet d;pallet d;pallet d;pallet i";
+        valid(pallets);
+        at(pallets + ";^pallet d");
+        StringBuilder orders = new StringBuilder(goods);
+        for (int i = 0; i < 10; i++) {
+            orders.append(";order d 1 1");
+        }
+        valid(orders.toString());
+        at(orders + ";^order d 1 1");
+        valid(chambers + ";" + goods + ";pallet d;order d 1 1;limits 1 1;quay 1;door c 0 0");
+    }
+
+    /** Promise 5. */
+    private static void load() {
+        ColdStores x = new ColdStores();
+        c.badArgument("load of nothing", x::load);
+        Checks.feed(x, "chamber a 2 3 -7;door a 1 2;goods g -8 2 3 4 5;goods h 1 2 3 0 0;pallet h;pallet g;"
+                + "pallet h;order g 2 9;order h 3 0;limits 7 8;quay -1");
+        c.same("load", x.load(), 3);
+        c.same("an empty buffer", x.append(0, 0, 0, 0, 0), 0);
+        c.same("chamberCount", x.chamberCount(), 1);
+        c.same("goodsCount", x.goodsCount(), 2);
+        c.same("orderCount", x.orderCount(), 2);
+        c.same("palletCount", x.palletCount(), 3);
+        c.same("waitingPallet", x.waitingPallet(0), 0);
+        c.same("waitingPallet", x.waitingPallet(2), 2);
+        c.same("goodsOf(0)", x.goodsOf(0), 1);
+        c.same("goodsOf(1)", x.goodsOf(1), 0);
+        c.same("setpoint", x.setpoint(0), -7);
+        c.same("the door", x.reachableCells(0), 63);
+        c.same("wayLength", x.wayLength(0, 1, 2), 1);
+        c.same("wayLength", x.wayLength(0, 0, 0), 4);
+        c.same("undoCount", x.undoCount(), 0);
+
+        Checks.feed(x, "quay 7;quay");
+        c.badArgument("load of an invalid text", x::load);
+        c.same("everything is kept", x.palletCount(), 3);
+        c.same("the buffer too", x.append(0, 0, 0, 0, 0), 11);
+        c.same("errorPosition", x.errorPosition(), 7);
+        c.same("the old text is in force", x.advance(1), 2);
+        c.same("heat", x.heat(0), 20);
+        c.same("errorPosition changes nothing", x.goodsCount(), 2);
+    }
+
+    private static void loadOverEverything() {
+        ColdStores x = Checks.loaded("chamber a 2 3 4;door a 0 0;goods g 0 4 30 0 0;pallet g;pallet g;"
+                + "pallet g;order g 1 9;limits 1 1;quay 40");
+        x.store(0, 0, 0, 1);
+        x.ship(1);
+        x.discard(2);
+        x.serve(0);
+        x.setSetpoint(0, 9);
+        x.save();
+        x.advance(2);
+        Checks.feed(x, "chamber b 1 2 5;door b 0 0;goods f 0 9 30 0 0;pallet f;order f 2 8");
+        c.same("load", x.load(), 1);
+        c.same("currentDay", x.currentDay(), 0);
+        c.same("shippedCount", x.shippedCount(), 0);
+        c.same("discardedCount", x.discardedCount(), 0);
+        c.same("openings", x.openings(0), 0);
+        c.same("temperature", x.temperature(0), 50);
+        c.same("undoCount", x.undoCount(), 0);
+        c.badState("undo", x::undo);
+        c.badState("restore", x::restore);
+        c.same("palletAt", x.palletAt(0, 0, 1), -1);
+        c.same("stateOf", x.stateOf(0), 0);
+        c.same("not served", x.order(0, 3), 0);
+        c.same("reachableCells", x.reachableCells(0), 3);
+        c.same("advance with the usual limits and quay", x.advance(3), 0);
+        c.same("heat", x.heat(0), 90);
+        c.sameText("the text", Checks.textOf(x),
+                "chamber b 1 2 5;door b 0 0;goods f 0 9 30 0 0;pallet f;order f 2 8");
+    }
+}
