@@ -276,6 +276,14 @@ public final class ChambersTest {
         c.same("m has 2 cells there", x.mostPairs(0, 1, 2), 2);
         c.same("b has more", x.mostPairs(0, 2, 1), 2);
         c.same("f beside f", x.mostPairs(0, 2, 0), 2);
+
+        ColdStores y = Checks.loaded("chamber u 1 4 0;door u 0 0;goods b 0 4 9 0 9;goods p 0 4 9 3 9;"
+                + "goods q 0 4 9 0 0;pallet p");
+        y.store(0, 0, 0, 1);
+        c.same("one cell for q", y.mostPairs(0, 0, 2), 1);
+        c.same("one cell for q", y.mostPairs(0, 2, 0), 1);
+        y.shift(0, 0, 2);
+        c.same("one cell for q", y.mostPairs(0, 2, 0), 1);
     }
 
     private static void mostPairsApart() {

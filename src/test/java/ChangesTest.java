@@ -18,12 +18,14 @@ public final class ChangesTest {
         discard();
         autoStore();
         autoStoreTies();
+        autoStoreElsewhere();
         serve();
         serveFromBehind();
         serveOldest();
         setSetpoint();
         advance();
         advanceInChambers();
+        advanceByTenths();
         taintOnTheQuay();
         wrongCallsChangeNothing();
         c.end("ChangesTest");
@@ -254,6 +256,18 @@ public final class ChangesTest {
         c.same("the lowest temperature fits", x.autoStore(), 3);
     }
 
+    /** A chamber without a cell for the pallet does not keep it from another one. */
+    private static void autoStoreElsewhere() {
+        ColdStores x = Checks.loaded("chamber a 2 2 0;chamber k 1 1 0;door k 0 0;chamber l 1 1 0;door l 0 0;"
+                + "goods b 0 4 9 0 0;pallet b;pallet b;pallet b");
+        c.same("autoStore", x.autoStore(), 2);
+        c.same("chamberOf", x.chamberOf(0), 1);
+        c.same("chamberOf", x.chamberOf(1), 2);
+        c.same("waitingPallet", x.waitingPallet(0), 2);
+        c.same("openings", x.openings(0), 0);
+        c.same("openings", x.openings(1), 1);
+    }
+
     private static void autoStoreTies() {
         ColdStores x = Checks.loaded("chamber a 1 2 0;door a 0 0;chamber k 3 3 0;door k 1 1;"
                 + "chamber l 3 3 0;door l 1 1;goods b 0 4 9 0 0;pallet b;pallet b;pallet b;pallet b;pallet b;"
@@ -414,6 +428,21 @@ public final class ChangesTest {
         x.advance(1);
         c.same("cold", x.temperature(0), -59);
         c.same("below the lowest", x.heat(0), 7 + 2 + 9);
+    }
+
+    /** The heat is counted in tenths, from the bounds of the goods on. */
+    private static void advanceByTenths() {
+        ColdStores x = Checks.loaded("chamber a 1 2 7;door a 0 0;chamber k 1 1 4;door k 0 0;goods w 5 7 60 0 0;"
+                + "pallet w;pallet w;pallet w;quay 5;limits 999 0");
+        x.store(0, 0, 0, 1);
+        x.store(1, 1, 0, 0);
+        x.advance(1);
+        c.same("72 is 2 above 70", x.heat(0), 2);
+        c.same("42 is 8 below 50", x.heat(1), 8);
+        c.same("50 is not below 50", x.heat(2), 0);
+        x.advance(2);
+        c.same("71 is 1 above 70", x.heat(0), 3);
+        c.same("41 and 40", x.heat(1), 8 + 9 + 10);
     }
 
     private static void taintOnTheQuay() {

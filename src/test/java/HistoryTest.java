@@ -10,6 +10,8 @@ public final class HistoryTest {
         notAChange();
         undoAndGoOn();
         saveAndRestore();
+        endOfAPallet();
+        arriveAgain();
         saveAndLoad();
         wrongCalls();
         c.end("HistoryTest");
@@ -210,6 +212,39 @@ public final class HistoryTest {
         c.same("restore of a new object", y.restore(), 0);
         c.same("currentDay", y.currentDay(), 0);
         c.same("undoCount", y.undoCount(), 0);
+    }
+
+    /** The day on which a pallet was discarded is undone and restored too. */
+    private static void endOfAPallet() {
+        ColdStores x = Checks.loaded("goods g 0 20 3 0 0;pallet g");
+        x.advance(2);
+        x.discard(0);
+        c.no("discarded in time", x.isSpoiled(0));
+        x.save();
+        x.undo();
+        x.advance(3);
+        x.discard(0);
+        c.yes("discarded late", x.isSpoiled(0));
+        x.restore();
+        c.no("discarded in time", x.isSpoiled(0));
+        c.same("currentDay", x.currentDay(), 2);
+    }
+
+    /** What an undone pallet has gathered is not left to the next one of its number. */
+    private static void arriveAgain() {
+        ColdStores x = Checks.loaded("chamber a 1 1 0;door a 0 0;goods g 0 4 30 9 9;goods h 0 4 30 0 0;pallet g");
+        x.arrive(1);
+        x.advance(1);
+        x.store(1, 0, 0, 0);
+        x.undo();
+        x.undo();
+        x.undo();
+        c.same("arrive", x.arrive(0), 1);
+        c.same("heat", x.heat(1), 0);
+        c.same("taint", x.taint(1), 0);
+        c.same("stateOf", x.stateOf(1), 0);
+        c.same("goodsOf", x.goodsOf(1), 0);
+        c.same("palletAt", x.palletAt(0, 0, 0), -1);
     }
 
     private static void saveAndLoad() {

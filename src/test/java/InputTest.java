@@ -15,8 +15,10 @@ public final class InputTest {
         names();
         tokens();
         tooMany();
+        endsTooEarly();
         load();
         loadOverEverything();
+        loadOverWaitingAndStored();
         c.end("InputTest");
     }
 
@@ -87,6 +89,15 @@ public final class InputTest {
         c.same("nothing was appended", z.append(0, 0, 0, 0, 0), 890);
         c.same("10 bytes more", z.append(0x61006161, 0x61616161, 0x61616100, 0, 0), 900);
         c.same("errorPosition", z.errorPosition(), 890);
+        for (int i = 0; i < 5; i++) {
+            int[] words = new int[5];
+            words[i] = 0x61;
+            c.badState("one byte more, in word " + i,
+                    () -> z.append(words[0], words[1], words[2], words[3], words[4]));
+        }
+        c.same("truncate", z.truncate(898), 898);
+        c.badState("a byte in each of three words", () -> z.append(0, 0x61, 0, 0x61, 0x61));
+        c.same("a byte in each of two words", z.append(0x61, 0, 0, 0x61, 0), 900);
     }
 
     /** Promise 3. */
@@ -294,6 +305,25 @@ public final class InputTest {
         valid(chambers + ";" + goods + ";pallet d;order d 1 1;limits 1 1;quay 1;door c 0 0");
     }
 
+    /** Every text that ends within a statement has its error at its end. */
+    private static void endsTooEarly() {
+        String[] statements = {"chamber k 2 3 - 4", "goods g - 9 - 5 1 0 0", "door k 0 0", "pallet g",
+            "order g 1 9", "limits 5 5", "quay - 3"};
+        StringBuilder text = new StringBuilder();
+        for (String statement : statements) {
+            String[] tokens = statement.split(" ");
+            for (int i = 0; i < tokens.length; i++) {
+                error(text.toString(), text.length());
+                error(text + " ", text.length() + 1);
+                text.append(" ").append(tokens[i]);
+            }
+            valid(text.toString());
+            valid(text + "  ");
+            text.append(" ;");
+        }
+        error(text.toString(), text.length());
+    }
+
     /** Promise 5. */
     private static void load() {
         ColdStores x = new ColdStores();
@@ -324,6 +354,37 @@ public final class InputTest {
         c.same("the old text is in force", x.advance(1), 2);
         c.same("heat", x.heat(0), 20);
         c.same("errorPosition changes nothing", x.goodsCount(), 2);
+    }
+
+    private static void loadOverWaitingAndStored() {
+        ColdStores x = Checks.loaded("chamber a 2 4 9;door a 1 1;chamber k 1 1 0;goods g 0 4 30 7 7;"
+                + "goods h 0 4 30 0 0;pallet g;pallet h;pallet g;pallet h;limits 1 1;quay 40");
+        x.advance(2);
+        x.store(0, 0, 0, 0);
+        x.store(2, 0, 0, 3);
+        x.advance(1);
+        Checks.feed(x, "chamber a 3 2 4;goods g 0 4 1 9 9;pallet g;pallet g;quay 4");
+        c.same("load", x.load(), 2);
+        c.same("waitingCount", x.waitingCount(), 2);
+        c.same("waitingPallet", x.waitingPallet(1), 1);
+        c.same("chamberCount", x.chamberCount(), 1);
+        for (int pallet = 0; pallet < 2; pallet++) {
+            c.same("heat", x.heat(pallet), 0);
+            c.same("taint", x.taint(pallet), 0);
+            c.same("stateOf", x.stateOf(pallet), 0);
+            c.same("chamberOf", x.chamberOf(pallet), -1);
+            c.same("cellOf", x.cellOf(pallet), -1);
+            c.same("arrivalDay", x.arrivalDay(pallet), 0);
+        }
+        c.same("no warming is left", x.temperature(0), 40);
+        c.same("no door is left", x.reachableCells(0), 0);
+        c.same("safeCells", x.safeCells(0, 0), 63);
+        c.sameText("the text", Checks.textOf(x), "chamber a 3 2 4;goods g 0 4 1 9 9;pallet g;pallet g;quay 4");
+        Checks.feed(x, "chamber a 3 2 4;door a 0 1;goods g 0 4 1 9 9");
+        x.load();
+        c.same("other columns", x.reachableCells(0), 63);
+        c.same("other columns", x.wayLength(0, 2, 0), 4);
+        c.same("other columns", x.wayLength(0, 1, 0), 3);
     }
 
     private static void loadOverEverything() {
