@@ -1299,7 +1299,7 @@ public final class ColdStores {
         /** No chamber has cells for more pairs. */
         private static final int MOST_PAIRS = MOST_CELLS / 2;
         private static final int COUNTS = MOST_PAIRS + 1;
-        /** Each of the latest four cells is left free (0) or holds the first (1) or second (2). */
+        /** Each of four columns was left free (0) or holds the first (1) or second goods (2). */
         private static final int EDGES = 81;
 
         /** For each edge and count of the first goods the most pallets of the second; or NONE. */
@@ -1315,7 +1315,10 @@ public final class ColdStores {
             return Math.min(either, Math.min(Integer.bitCount(first), Integer.bitCount(second)));
         }
 
-        /** The cells are filled one by one; what was put into the latest row's width is the edge. */
+        /**
+         * Goods that clash stand apart. The cells are filled row by row; the edge tells what stands
+         * in the latest cell of each column, for only these have neighbours among those to come.
+         */
         int mostApart(Chamber chamber, int first, int second) {
             most.fill(NONE);
             most.set(0, 0);

@@ -284,6 +284,13 @@ public final class ChambersTest {
         c.same("one cell for q", y.mostPairs(0, 2, 0), 1);
         y.shift(0, 0, 2);
         c.same("one cell for q", y.mostPairs(0, 2, 0), 1);
+
+        ColdStores z = Checks.loaded("chamber u 6 1 0;door u 0 0;goods b 0 4 9 0 9;goods p 0 4 9 3 9;"
+                + "goods q 0 4 9 0 0;pallet p;pallet p");
+        z.store(0, 0, 3, 0);
+        z.store(1, 0, 1, 0);
+        c.same("four cells for b, one of them for q", z.mostPairs(0, 0, 2), 1);
+        c.same("one cell for q", z.mostPairs(0, 2, 0), 1);
     }
 
     private static void mostPairsApart() {

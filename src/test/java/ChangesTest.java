@@ -27,6 +27,7 @@ public final class ChangesTest {
         advanceInChambers();
         advanceByTenths();
         taintOnTheQuay();
+        taintByTheLastOne();
         wrongCallsChangeNothing();
         c.end("ChangesTest");
     }
@@ -443,6 +444,22 @@ public final class ChangesTest {
         x.advance(2);
         c.same("71 is 1 above 70", x.heat(0), 3);
         c.same("41 and 40", x.heat(1), 8 + 9 + 10);
+
+        ColdStores y = Checks.loaded("chamber a 1 1 6;door a 0 0;chamber k 1 1 4;door k 0 0;chamber l 1 1 5;"
+                + "door l 0 0;goods w 5 7 60 0 0;pallet w;pallet w;pallet w;quay 5");
+        for (int i = 0; i < 3; i++) {
+            y.store(i, i, 0, 0);
+            y.retrieve(i);
+            y.store(i, i, 0, 0);
+        }
+        y.advance(1);
+        c.same("66 is not above 70", y.heat(0), 0);
+        c.same("46 is 4 below 50", y.heat(1), 4);
+        c.same("56 is not below 50", y.heat(2), 0);
+        y.advance(1);
+        c.same("63", y.heat(0), 0);
+        c.same("43", y.heat(1), 11);
+        c.same("53 is not below 50", y.heat(2), 0);
     }
 
     private static void taintOnTheQuay() {
@@ -470,6 +487,19 @@ public final class ChangesTest {
         c.no("r", x.isSpoiled(3));
         c.same("advance: r", x.advance(1), 1);
         c.same("p", x.taint(0), 8);
+    }
+
+    /** A pallet that has left the quay taints none there. */
+    private static void taintByTheLastOne() {
+        ColdStores x = Checks.loaded("chamber a 1 1 12;door a 0 0;goods p -9 20 60 7 2;goods q -9 20 60 0 3;"
+                + "pallet q;pallet p;pallet p;pallet p");
+        x.ship(3);
+        x.discard(2);
+        x.advance(1);
+        c.same("one is still there", x.taint(0), 4);
+        x.store(1, 0, 0, 0);
+        x.advance(1);
+        c.same("none is there", x.taint(0), 4);
     }
 
     private static void wrongCallsChangeNothing() {

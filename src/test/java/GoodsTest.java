@@ -56,6 +56,10 @@ public final class GoodsTest {
                 + "goods f -30 20 1 0 0", 2, 4, 6, 8, 10);
         same("goods a 1 1 1 0 0;goods b 2 2 1 0 0;goods c 3 3 1 0 0;goods d 4 4 1 0 0;goods e 5 5 1 0 0;"
                 + "goods f 6 6 1 0 0", 1, 2, 3, 4, 5, 6);
+        ColdStores x = Checks.loaded("goods a 0 1 1 0 0;goods b 0 1 1 0 0;goods c 5 9 1 0 0");
+        Checks.feed(x, "goods a 0 1 1 0 0;goods b 0 1 1 0 0");
+        x.load();
+        c.same("goods of an earlier text do not count", x.zonesNeeded(), 1);
     }
 
     private static void same(String text, int... due) {

@@ -14,6 +14,7 @@ public final class InputTest {
         limitsAndQuayStatements();
         names();
         tokens();
+        signs();
         tooMany();
         endsTooEarly();
         load();
@@ -115,6 +116,11 @@ public final class InputTest {
         c.same("41", x.errorPosition(), 5);
         c.same("truncate", x.truncate(0), 0);
         c.same("empty", x.errorPosition(), 0);
+        Checks.feed(x, "quay   4");
+        x.truncate(4);
+        c.same("what was cut off is not read", x.errorPosition(), 4);
+        x.truncate(0);
+        c.same("what was cut off is not read", x.errorPosition(), 0);
     }
 
     /** Promise 4, from here on. */
@@ -260,6 +266,11 @@ public final class InputTest {
     }
 
     private static void tokens() {
+        for (String word : "chamber door goods pallet order limits quay".split(" ")) {
+            at("^z" + word.substring(1) + " a 1 1 1");
+            at("^" + word.substring(0, word.length() - 1) + "z a 1 1 1");
+            at("^" + word + "z a 1 1 1");
+        }
         valid("limits1 1;quay-3");
         valid("chamber a1 1-3;door a0 0");
         valid(" limits 1 1 ; quay - 3 ");
@@ -282,6 +293,18 @@ public final class InputTest {
         at("^`");
         at("^/");
         at("limits ^: 1");
+    }
+
+    /** Only a T may have a sign. */
+    private static void signs() {
+        String k = "chamber k 2 3 0;goods g 0 1 1 0 0;";
+        for (String text : new String[] {"chamber a ^-1 1 0", "chamber a 1 ^-1 0", k + "door k ^-0 0",
+            k + "door k 0 ^-0", "goods g 0 0 ^-1 0 0", "goods g 0 0 1 ^-0 0", "goods g 0 0 1 0 ^-0",
+            k + "order g ^-1 0", k + "order g 1 ^-0", "limits ^-0 0", "limits 0 ^-0"}) {
+            at(text);
+            at(text.replaceAll("-.*", "+1"));
+        }
+        valid("chamber a 1 1 -1;goods g -1 -0 1 0 0;quay -0");
     }
 
     private static void tooMany() {
@@ -357,11 +380,11 @@ public final class InputTest {
     }
 
     private static void loadOverWaitingAndStored() {
-        ColdStores x = Checks.loaded("chamber a 2 4 9;door a 1 1;chamber k 1 1 0;goods g 0 4 30 7 7;"
+        ColdStores x = Checks.loaded("chamber a 2 3 9;door a 1 1;chamber k 1 1 0;door k 0 0;goods g 0 4 30 7 7;"
                 + "goods h 0 4 30 0 0;pallet g;pallet h;pallet g;pallet h;limits 1 1;quay 40");
         x.advance(2);
         x.store(0, 0, 0, 0);
-        x.store(2, 0, 0, 3);
+        x.store(2, 0, 0, 2);
         x.advance(1);
         Checks.feed(x, "chamber a 3 2 4;goods g 0 4 1 9 9;pallet g;pallet g;quay 4");
         c.same("load", x.load(), 2);
@@ -385,6 +408,18 @@ public final class InputTest {
         c.same("other columns", x.reachableCells(0), 63);
         c.same("other columns", x.wayLength(0, 2, 0), 4);
         c.same("other columns", x.wayLength(0, 1, 0), 3);
+        Checks.feed(x, "chamber a 2 3 0");
+        x.load();
+        Checks.feed(x, "chamber a 3 2 4;door a 1 1");
+        x.load();
+        c.same("beside the door", x.wayLength(0, 1, 0), 2);
+        c.same("no goods are left", x.zonesNeeded(), 0);
+        Checks.feed(x, "goods a 0 9 1 0 0;goods b 4 5 1 0 0");
+        x.load();
+        Checks.feed(x, "goods a 0 9 1 0 0");
+        x.load();
+        c.same("only the new goods", x.zoneTemperature(0), 9);
+        c.noIndex("only the new goods", () -> x.shelfLife(1));
     }
 
     private static void loadOverEverything() {
