@@ -17,30 +17,6 @@ public final class HistoryTest {
         c.end("HistoryTest");
     }
 
-    /** All that can be asked about the object. */
-    static String facts(ColdStores x) {
-        StringBuilder all = new StringBuilder(Checks.textOf(x));
-        all.append(" day ").append(x.currentDay()).append(" spoiled ").append(x.spoiledCount());
-        all.append(" shipped ").append(x.shippedCount()).append(" discarded ").append(x.discardedCount());
-        for (int i = 0; i < x.waitingCount(); i++) {
-            all.append(" w").append(x.waitingPallet(i));
-        }
-        for (int i = 0; i < x.palletCount(); i++) {
-            all.append("\n").append(x.goodsOf(i)).append(" ").append(x.stateOf(i)).append(" ")
-                    .append(x.chamberOf(i)).append(" ").append(x.cellOf(i)).append(" ")
-                    .append(x.arrivalDay(i)).append(" ").append(x.heat(i)).append(" ")
-                    .append(x.taint(i)).append(" ").append(x.isSpoiled(i));
-        }
-        for (int i = 0; i < x.chamberCount(); i++) {
-            all.append("\n").append(x.setpoint(i)).append(" ").append(x.temperature(i)).append(" ")
-                    .append(x.openings(i)).append(" ").append(x.reachableCells(i));
-        }
-        for (int i = 0; i < x.orderCount(); i++) {
-            all.append(" o").append(x.order(i, 3));
-        }
-        return all.toString();
-    }
-
     private static void change(ColdStores x, int which) {
         switch (which) {
             case 0:
@@ -86,17 +62,17 @@ public final class HistoryTest {
     private static void everyChange() {
         ColdStores x = Checks.loaded(TEXT);
         for (int i = 0; i < 12; i++) {
-            String before = facts(x);
+            String before = Checks.present(x);
             int count = x.undoCount();
             c.same("undoCount before " + i, count, Math.min(i, 8));
             change(x, i);
-            c.no("change " + i + " changes", facts(x).equals(before));
-            String after = facts(x);
+            c.no("change " + i + " changes", Checks.present(x).equals(before));
+            String after = Checks.present(x);
             c.same("undoCount after " + i, x.undoCount(), Math.min(i + 1, 8));
             c.same("undo of " + i, x.undo(), Math.min(i, 7));
-            c.sameText("undone " + i, facts(x), before);
+            c.sameText("undone " + i, Checks.present(x), before);
             change(x, i);
-            c.sameText("done again " + i, facts(x), after);
+            c.sameText("done again " + i, Checks.present(x), after);
         }
     }
 
@@ -104,17 +80,17 @@ public final class HistoryTest {
         ColdStores x = Checks.loaded(TEXT);
         String[] facts = new String[13];
         for (int i = 0; i < 12; i++) {
-            facts[i] = facts(x);
+            facts[i] = Checks.present(x);
             change(x, i);
         }
         c.same("undoCount", x.undoCount(), 8);
         for (int i = 11; i >= 4; i--) {
             c.same("undo", x.undo(), i - 4);
-            c.sameText("undone " + i, facts(x), facts[i]);
+            c.sameText("undone " + i, Checks.present(x), facts[i]);
         }
         c.same("undoCount", x.undoCount(), 0);
         c.badState("a ninth", x::undo);
-        c.sameText("nothing was changed", facts(x), facts[4]);
+        c.sameText("nothing was changed", Checks.present(x), facts[4]);
     }
 
     private static void notAChange() {
@@ -173,31 +149,31 @@ public final class HistoryTest {
         c.badState("no copy", x::restore);
         x.advance(3);
         x.store(0, 0, 1, 2);
-        String first = facts(x);
+        String first = Checks.present(x);
         c.same("save", x.save(), 3);
-        c.sameText("save changes nothing", facts(x), first);
+        c.sameText("save changes nothing", Checks.present(x), first);
         c.same("save keeps the history", x.undoCount(), 2);
         x.advance(4);
         x.setSetpoint(0, 7);
         x.serve(1);
         x.discard(2);
         c.same("restore", x.restore(), 3);
-        c.sameText("restored", facts(x), first);
+        c.sameText("restored", Checks.present(x), first);
         c.same("undoCount", x.undoCount(), 0);
         c.badState("undo", x::undo);
         x.retrieve(0);
         x.ship(0);
         c.same("the copy is kept", x.restore(), 3);
-        c.sameText("restored", facts(x), first);
+        c.sameText("restored", Checks.present(x), first);
         x.advance(2);
-        String second = facts(x);
+        String second = Checks.present(x);
         c.same("save again", x.save(), 5);
         x.advance(2);
         c.same("in place of the earlier copy", x.restore(), 5);
-        c.sameText("restored", facts(x), second);
+        c.sameText("restored", Checks.present(x), second);
         x.arrive(0);
         x.undo();
-        c.sameText("undo after restore", facts(x), second);
+        c.sameText("undo after restore", Checks.present(x), second);
         Checks.feed(x, "quay");
         c.same("restore", x.restore(), 5);
         c.same("the input buffer is not restored", x.append(0, 0, 0, 0, 0), 4);

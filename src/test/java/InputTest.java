@@ -23,19 +23,6 @@ public final class InputTest {
         c.end("InputTest");
     }
 
-    private static void error(String text, int due) {
-        c.same("errorPosition of \"" + text + "\"", Checks.errorIn(text), due);
-    }
-
-    private static void valid(String text) {
-        error(text, ColdStores.NONE);
-    }
-
-    /** The first error is at the sign ^, which is not part of the text. */
-    private static void at(String marked) {
-        error(marked.replace("^", ""), marked.indexOf('^'));
-    }
-
     /** Promise 1. */
     private static void newObject() {
         ColdStores x = new ColdStores();
@@ -125,174 +112,174 @@ public final class InputTest {
 
     /** Promise 4, from here on. */
     private static void emptyAndShort() {
-        error("", 0);
-        error("   ", 3);
-        at("^;");
-        at("quay 4;^");
-        error("quay 4;  ", 9);
-        at("quay 4;^;");
-        at("quay 4 ^4");
-        at("quay 4 ^quay");
-        at("^quai 4");
-        at("^Quay 4");
-        at("^4");
-        at("^-");
-        valid("quay 4");
-        valid("  quay  4  ");
-        error("quay", 4);
-        error("quay ", 5);
-        error("quay - ", 7);
-        at(" ^k");
+        c.error("", 0);
+        c.error("   ", 3);
+        c.at("^;");
+        c.at("quay 4;^");
+        c.error("quay 4;  ", 9);
+        c.at("quay 4;^;");
+        c.at("quay 4 ^4");
+        c.at("quay 4 ^quay");
+        c.at("^quai 4");
+        c.at("^Quay 4");
+        c.at("^4");
+        c.at("^-");
+        c.valid("quay 4");
+        c.valid("  quay  4  ");
+        c.error("quay", 4);
+        c.error("quay ", 5);
+        c.error("quay - ", 7);
+        c.at(" ^k");
     }
 
     private static void chamberStatements() {
-        valid("chamber a 1 1 0");
-        valid("chamber abcdef 6 4 -30");
-        valid("chamber a 6 4 20");
-        at("chamber a ^0 1 0");
-        at("chamber a ^7 1 0");
-        at("chamber a ^-1 1 0");
-        at("chamber a 1 ^0 0");
-        at("chamber a 1 ^5 0");
-        at("chamber a 1 1 ^21");
-        at("chamber a 1 1 -^31");
-        at("chamber a 1 1 - ^31");
-        at("chamber a 1 1 -^-3");
-        at("chamber a 1 1 -^a");
-        at("chamber a 1 1 ^a");
-        at("chamber a 1 1 0 ^0");
-        at("chamber a 1 1 ^;");
-        error("chamber a 1 1", 13);
-        error("chamber a 1", 11);
-        error("chamber a", 9);
-        error("chamber", 7);
-        valid("chamber a 1 1 -0");
+        c.valid("chamber a 1 1 0");
+        c.valid("chamber abcdef 6 4 -30");
+        c.valid("chamber a 6 4 20");
+        c.at("chamber a ^0 1 0");
+        c.at("chamber a ^7 1 0");
+        c.at("chamber a ^-1 1 0");
+        c.at("chamber a 1 ^0 0");
+        c.at("chamber a 1 ^5 0");
+        c.at("chamber a 1 1 ^21");
+        c.at("chamber a 1 1 -^31");
+        c.at("chamber a 1 1 - ^31");
+        c.at("chamber a 1 1 -^-3");
+        c.at("chamber a 1 1 -^a");
+        c.at("chamber a 1 1 ^a");
+        c.at("chamber a 1 1 0 ^0");
+        c.at("chamber a 1 1 ^;");
+        c.error("chamber a 1 1", 13);
+        c.error("chamber a 1", 11);
+        c.error("chamber a", 9);
+        c.error("chamber", 7);
+        c.valid("chamber a 1 1 -0");
     }
 
     private static void doorStatements() {
         String k = "chamber k 2 3 0;goods g 0 1 1 0 0;";
-        valid(k + "door k 0 0");
-        valid(k + "door k 1 2;door k 1 2");
-        at(k + "door k ^2 0");
-        at(k + "door k 1 ^3");
-        at(k + "door k ^-1 0");
-        at(k + "door ^g 0 0");
-        at(k + "door ^h 0 0");
-        at(k + "door ^0 0 0");
-        at(k + "door ^door 0 0");
-        at("^d");
-        at("door ^k 0 0;chamber k 2 3 0");
-        at("chamber k 1 1 0;chamber l 2 1 0;door l 1 0;door k ^1 0");
-        at("chamber k 1 1 0;chamber l 1 2 0;door l 0 1;door k 0 ^1");
+        c.valid(k + "door k 0 0");
+        c.valid(k + "door k 1 2;door k 1 2");
+        c.at(k + "door k ^2 0");
+        c.at(k + "door k 1 ^3");
+        c.at(k + "door k ^-1 0");
+        c.at(k + "door ^g 0 0");
+        c.at(k + "door ^h 0 0");
+        c.at(k + "door ^0 0 0");
+        c.at(k + "door ^door 0 0");
+        c.at("^d");
+        c.at("door ^k 0 0;chamber k 2 3 0");
+        c.at("chamber k 1 1 0;chamber l 2 1 0;door l 1 0;door k ^1 0");
+        c.at("chamber k 1 1 0;chamber l 1 2 0;door l 0 1;door k 0 ^1");
         StringBuilder many = new StringBuilder(k);
         for (int i = 0; i < 60; i++) {
             many.append("door k 1 1;");
         }
-        valid(many + "quay 3");
+        c.valid(many + "quay 3");
     }
 
     private static void goodsStatements() {
-        valid("goods g -30 20 60 9 9");
-        valid("goods g 5 5 1 0 0");
-        valid("goods g -5 -5 1 0 0");
-        at("goods g ^21 21 1 0 0");
-        at("goods g -^31 0 1 0 0");
-        at("goods g 5 ^4 1 0 0");
-        at("goods g 5 -^5 1 0 0");
-        at("goods g -5 -^6 1 0 0");
-        valid("goods g -5 -4 1 0 0");
-        at("goods g 0 ^21 1 0 0");
-        at("goods g 0 0 ^0 0 0");
-        at("goods g 0 0 ^61 0 0");
-        at("goods g 0 0 ^-1 0 0");
-        at("goods g 0 0 1 ^10 0");
-        at("goods g 0 0 1 0 ^10");
-        at("goods g 0 0 1 0 0 ^0");
-        error("goods g 0 0 1 0", 15);
-        at("goods g 0 0 1 0 ^;goods g 0 0 1 0 0");
+        c.valid("goods g -30 20 60 9 9");
+        c.valid("goods g 5 5 1 0 0");
+        c.valid("goods g -5 -5 1 0 0");
+        c.at("goods g ^21 21 1 0 0");
+        c.at("goods g -^31 0 1 0 0");
+        c.at("goods g 5 ^4 1 0 0");
+        c.at("goods g 5 -^5 1 0 0");
+        c.at("goods g -5 -^6 1 0 0");
+        c.valid("goods g -5 -4 1 0 0");
+        c.at("goods g 0 ^21 1 0 0");
+        c.at("goods g 0 0 ^0 0 0");
+        c.at("goods g 0 0 ^61 0 0");
+        c.at("goods g 0 0 ^-1 0 0");
+        c.at("goods g 0 0 1 ^10 0");
+        c.at("goods g 0 0 1 0 ^10");
+        c.at("goods g 0 0 1 0 0 ^0");
+        c.error("goods g 0 0 1 0", 15);
+        c.at("goods g 0 0 1 0 ^;goods g 0 0 1 0 0");
     }
 
     private static void palletAndOrderStatements() {
         String g = "chamber k 2 3 0;goods g 0 1 1 0 0;";
-        valid(g + "pallet g;pallet g");
-        at(g + "pallet ^k");
-        at(g + "pallet ^h");
-        at(g + "pallet ^1");
-        at(g + "pallet g ^1");
-        error(g + "pallet", g.length() + 6);
-        at("pallet ^g;goods g 0 1 1 0 0");
-        valid(g + "order g 1 0;order g 9 365");
-        at(g + "order ^k 1 0");
-        at(g + "order g ^0 0");
-        at(g + "order g ^10 0");
-        at(g + "order g 1 ^366");
-        at(g + "order g 1 ^-1");
-        at(g + "order g 1 0 ^0");
+        c.valid(g + "pallet g;pallet g");
+        c.at(g + "pallet ^k");
+        c.at(g + "pallet ^h");
+        c.at(g + "pallet ^1");
+        c.at(g + "pallet g ^1");
+        c.error(g + "pallet", g.length() + 6);
+        c.at("pallet ^g;goods g 0 1 1 0 0");
+        c.valid(g + "order g 1 0;order g 9 365");
+        c.at(g + "order ^k 1 0");
+        c.at(g + "order g ^0 0");
+        c.at(g + "order g ^10 0");
+        c.at(g + "order g 1 ^366");
+        c.at(g + "order g 1 ^-1");
+        c.at(g + "order g 1 0 ^0");
     }
 
     private static void limitsAndQuayStatements() {
-        valid("limits 0 0");
-        valid("limits 999 999");
-        at("limits ^1000 0");
-        at("limits 0 ^1000");
-        at("limits ^-1 0");
-        at("limits 0 ^-1");
-        at("limits 1 1;^limits 1 1");
-        valid("quay -30");
-        valid("quay 40");
-        at("quay ^41");
-        at("quay -^31");
-        at("quay -^40");
-        at("quay 1;limits 1 1;^quay 1");
-        valid("quay 1;limits 1 1");
+        c.valid("limits 0 0");
+        c.valid("limits 999 999");
+        c.at("limits ^1000 0");
+        c.at("limits 0 ^1000");
+        c.at("limits ^-1 0");
+        c.at("limits 0 ^-1");
+        c.at("limits 1 1;^limits 1 1");
+        c.valid("quay -30");
+        c.valid("quay 40");
+        c.at("quay ^41");
+        c.at("quay -^31");
+        c.at("quay -^40");
+        c.at("quay 1;limits 1 1;^quay 1");
+        c.valid("quay 1;limits 1 1");
     }
 
     private static void names() {
         String both = "chamber k 1 1 0;goods g 0 1 1 0 0;";
-        at("chamber ^abcdefg 1 1 0");
-        at("chamber ^1 1 1 0");
-        at("chamber ^A 1 1 0");
+        c.at("chamber ^abcdefg 1 1 0");
+        c.at("chamber ^1 1 1 0");
+        c.at("chamber ^A 1 1 0");
         for (String word : "chamber door goods pallet order limits quay".split(" ")) {
-            at("chamber ^" + word + " 1 1 0");
-            at("goods ^" + word + " 0 0 1 0 0");
+            c.at("chamber ^" + word + " 1 1 0");
+            c.at("goods ^" + word + " 0 0 1 0 0");
         }
-        valid("chamber quays 1 1 0;goods doors 0 0 1 0 0;goods goodsa 0 0 1 0 0;goods palle 0 0 1 0 0");
-        at(both + "chamber ^k 1 1 0");
-        at(both + "chamber ^g 1 1 0");
-        at(both + "goods ^k 0 1 1 0 0");
-        at(both + "goods ^g 0 1 1 0 0");
-        valid(both + "goods kk 0 1 1 0 0;goods gg 0 1 1 0 0;chamber kg 1 1 0;chamber gk 1 1 0");
-        valid("chamber zzzzzz 1 1 0;goods zzzzz 0 1 1 0 0;goods z 0 1 1 0 0;pallet zzzzz;door zzzzzz 0 0");
+        c.valid("chamber quays 1 1 0;goods doors 0 0 1 0 0;goods goodsa 0 0 1 0 0;goods palle 0 0 1 0 0");
+        c.at(both + "chamber ^k 1 1 0");
+        c.at(both + "chamber ^g 1 1 0");
+        c.at(both + "goods ^k 0 1 1 0 0");
+        c.at(both + "goods ^g 0 1 1 0 0");
+        c.valid(both + "goods kk 0 1 1 0 0;goods gg 0 1 1 0 0;chamber kg 1 1 0;chamber gk 1 1 0");
+        c.valid("chamber zzzzzz 1 1 0;goods zzzzz 0 1 1 0 0;goods z 0 1 1 0 0;pallet zzzzz;door zzzzzz 0 0");
     }
 
     private static void tokens() {
         for (String word : "chamber door goods pallet order limits quay".split(" ")) {
-            at("^z" + word.substring(1) + " a 1 1 1");
-            at("^" + word.substring(0, word.length() - 1) + "z a 1 1 1");
-            at("^" + word + "z a 1 1 1");
+            c.at("^z" + word.substring(1) + " a 1 1 1");
+            c.at("^" + word.substring(0, word.length() - 1) + "z a 1 1 1");
+            c.at("^" + word + "z a 1 1 1");
         }
-        valid("limits1 1;quay-3");
-        valid("chamber a1 1-3;door a0 0");
-        valid(" limits 1 1 ; quay - 3 ");
-        at("limits 1 ^01000");
-        at("limits ^00001 1");
-        valid("limits 0001 0999");
-        at("limits 1 1^\n;quay 1");
-        at("limits 1^\t1");
-        at("limits 1 1^\u00a0");
-        at("limits 1 1^\u00ff");
-        at("limits ^one 1");
-        at("limits ^99999999999999999999 1");
-        at("limits 1^.5 1");
-        at("quay ^+4");
-        at("quay 4^,quay 4");
-        at("^quayquay 4");
-        at("limits 1 1^q");
-        at("limits 1 1 ^99999");
-        at("^{");
-        at("^`");
-        at("^/");
-        at("limits ^: 1");
+        c.valid("limits1 1;quay-3");
+        c.valid("chamber a1 1-3;door a0 0");
+        c.valid(" limits 1 1 ; quay - 3 ");
+        c.at("limits 1 ^01000");
+        c.at("limits ^00001 1");
+        c.valid("limits 0001 0999");
+        c.at("limits 1 1^\n;quay 1");
+        c.at("limits 1^\t1");
+        c.at("limits 1 1^\u00a0");
+        c.at("limits 1 1^\u00ff");
+        c.at("limits ^one 1");
+        c.at("limits ^99999999999999999999 1");
+        c.at("limits 1^.5 1");
+        c.at("quay ^+4");
+        c.at("quay 4^,quay 4");
+        c.at("^quayquay 4");
+        c.at("limits 1 1^q");
+        c.at("limits 1 1 ^99999");
+        c.at("^{");
+        c.at("^`");
+        c.at("^/");
+        c.at("limits ^: 1");
     }
 
     /** Only a T may have a sign. */
@@ -301,31 +288,31 @@ public final class InputTest {
         for (String text : new String[] {"chamber a ^-1 1 0", "chamber a 1 ^-1 0", k + "door k ^-0 0",
             k + "door k 0 ^-0", "goods g 0 0 ^-1 0 0", "goods g 0 0 1 ^-0 0", "goods g 0 0 1 0 ^-0",
             k + "order g ^-1 0", k + "order g 1 ^-0", "limits ^-0 0", "limits 0 ^-0"}) {
-            at(text);
-            at(text.replaceAll("-.*", "+1"));
+            c.at(text);
+            c.at(text.replaceAll("-.*", "+1"));
         }
-        valid("chamber a 1 1 -1;goods g -1 -0 1 0 0;quay -0");
+        c.valid("chamber a 1 1 -1;goods g -1 -0 1 0 0;quay -0");
     }
 
     private static void tooMany() {
         String chambers = "chamber a 1 1 0;chamber b 1 1 0;chamber c 1 1 0";
-        valid(chambers);
-        at(chambers + ";^chamber d 1 1 0");
-        at(chambers + ";  ^chamber");
+        c.valid(chambers);
+        c.at(chambers + ";^chamber d 1 1 0");
+        c.at(chambers + ";  ^chamber");
         String goods = "goods d 0 1 1 0 0;goods e 0 1 1 0 0;goods f 0 1 1 0 0;goods g 0 1 1 0 0;"
                 + "goods h 0 1 1 0 0;goods i 0 1 1 0 0";
-        valid(goods);
-        at(goods + ";^goods j 0 1 1 0 0");
+        c.valid(goods);
+        c.at(goods + ";^goods j 0 1 1 0 0");
         String pallets = goods + ";pallet d;pallet e;pallet d;pallet d;pallet d;pallet d;pallet d;pallet i";
-        valid(pallets);
-        at(pallets + ";^pallet d");
+        c.valid(pallets);
+        c.at(pallets + ";^pallet d");
         StringBuilder orders = new StringBuilder(goods);
         for (int i = 0; i < 10; i++) {
             orders.append(";order d 1 1");
         }
-        valid(orders.toString());
-        at(orders + ";^order d 1 1");
-        valid(chambers + ";" + goods + ";pallet d;order d 1 1;limits 1 1;quay 1;door c 0 0");
+        c.valid(orders.toString());
+        c.at(orders + ";^order d 1 1");
+        c.valid(chambers + ";" + goods + ";pallet d;order d 1 1;limits 1 1;quay 1;door c 0 0");
     }
 
     /** Every text that ends within a statement has its error at its end. */
@@ -336,15 +323,15 @@ public final class InputTest {
         for (String statement : statements) {
             String[] tokens = statement.split(" ");
             for (int i = 0; i < tokens.length; i++) {
-                error(text.toString(), text.length());
-                error(text + " ", text.length() + 1);
+                c.error(text.toString(), text.length());
+                c.error(text + " ", text.length() + 1);
                 text.append(" ").append(tokens[i]);
             }
-            valid(text.toString());
-            valid(text + "  ");
+            c.valid(text.toString());
+            c.valid(text + "  ");
             text.append(" ;");
         }
-        error(text.toString(), text.length());
+        c.error(text.toString(), text.length());
     }
 
     /** Promise 5. */
