@@ -275,6 +275,20 @@ public final class ChambersEdgesTest {
         c.same("before it", x.storeProblem(1, 0, 0, 0), 0);
     }
 
+    static void firstProblemOfSeveral() {
+        c.about("Promise 48", "The first code that applies is returned.");
+        ColdStores x = Checks.loaded("chamber u 1 4 0;door u 0 0;" + PQN + ";pallet p;pallet n;pallet q;pallet q");
+        x.store(0, 0, 0, 2);
+        x.store(1, 0, 0, 0);
+        c.same("3 before 4", x.storeProblem(2, 0, 0, 1), 3);
+        c.same("2 before 4", x.storeProblem(2, 0, 0, 2), 2);
+        c.same("3 before 4, on the other side", x.storeProblem(2, 0, 0, 3), 3);
+        c.same("1 before 2", x.storeProblem(0, 0, 0, 0), 1);
+        x.ship(2);
+        c.same("1 before 3", x.storeProblem(2, 0, 0, 1), 1);
+        c.same("2 before 3", x.storeProblem(3, 0, 0, 0), 2);
+    }
+
     static void noProblem() {
         c.about("Promise 48", PROBLEMS);
         ColdStores x = Checks.loaded(TWO + ";pallet n");

@@ -571,6 +571,17 @@ public final class ChangesEdgesTest {
 
     // ---- promise 13: serve
 
+    static void serveTheNumberOfPallets() {
+        c.about("Promise 13", "Serves an order: its number of pallets of its goods is shipped, one after another.");
+        ColdStores x = Checks.loaded(TWO + ";pallet n;pallet p;pallet n;pallet n;order n 1 9;order n 2 9");
+        x.serve(0);
+        c.same("one", x.shippedCount(), 1);
+        x.serve(1);
+        c.same("and two", x.shippedCount(), 3);
+        c.same("no other goods", x.stateOf(1), 0);
+        c.same("the others wait no more", x.waitingCount(), 1);
+    }
+
     static void serveTheEarliest() {
         c.about("Promise 13", TAKEN);
         ColdStores x = Checks.loaded(TWO + ";pallet n;pallet n;order n 1 365;order n 1 365;order n 1 365");

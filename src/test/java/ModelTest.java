@@ -85,30 +85,41 @@ public final class ModelTest {
         return all;
     }
 
-    /** At most 512 calls, as the document allows an object. */
+    /** At most 512 calls, as the document allows an object, with another text after half of them. */
     private void run(int seed) {
-        String text = new Texts(dice).valid();
-        int calls = 0;
-        for (int i = 0; i < text.length(); i += 20) {
-            calls++;
+        StringBuilder story = new StringBuilder("seed " + seed);
+        int calls = load(story);
+        for (; calls < 230; calls++) {
+            callOne(story);
         }
+        calls += load(story);
+        for (; calls < 512; calls++) {
+            callOne(story);
+        }
+    }
+
+    /** Loads a text in place of what there is; answers the number of calls. */
+    private int load(StringBuilder story) {
+        String text = new Texts(dice).valid();
         Checks.feed(x, text);
         for (char sign : text.toCharArray()) {
             m.append(sign);
         }
-        c.same("seed " + seed + " errorPosition of " + text, x.errorPosition(), m.errorPosition());
-        c.same("seed " + seed + " load", x.load(), m.load());
-        StringBuilder story = new StringBuilder("seed " + seed + " " + text);
-        for (; calls < 508; calls++) {
-            boolean change = dice.below(100) < 40;
-            Map<String, String> kind = change ? CHANGES : QUESTIONS;
-            String name = dice.one(kind.keySet().toArray(new String[0]));
-            if (name.equals("advance") && dice.below(3) > 0 || name.equals("undo") && dice.below(2) > 0
-                    || name.equals("restore") && dice.below(4) > 0) {
-                name = dice.one("store", "autoStore", "shift");
-            }
-            compare(story, name, arguments(kind.containsKey(name) ? kind.get(name) : CHANGES.get(name)));
+        story.append(" ").append(text);
+        c.same(story + " errorPosition", x.errorPosition(), m.errorPosition());
+        c.same(story + " load", x.load(), m.load());
+        return (text.length() + 19) / 20 + 2;
+    }
+
+    private void callOne(StringBuilder story) {
+        boolean change = dice.below(100) < 40;
+        Map<String, String> kind = change ? CHANGES : QUESTIONS;
+        String name = dice.one(kind.keySet().toArray(new String[0]));
+        if (name.equals("advance") && dice.below(3) > 0 || name.equals("undo") && dice.below(2) > 0
+                || name.equals("restore") && dice.below(4) > 0) {
+            name = dice.one("store", "autoStore", "shift");
         }
+        compare(story, name, arguments(kind.containsKey(name) ? kind.get(name) : CHANGES.get(name)));
     }
 
     private void compare(StringBuilder story, String name, Object[] arguments) {

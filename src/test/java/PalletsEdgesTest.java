@@ -355,6 +355,14 @@ public final class PalletsEdgesTest {
         c.same("zonesNeeded", x.zonesNeeded(), 3);
     }
 
+    static void numberOfZones() {
+        c.about("Promise 31", "There are zonesNeeded() of them.");
+        for (int sorts = 0; sorts <= 6; sorts++) {
+            ColdStores x = Checks.loaded(sorts(sorts));
+            c.numbers("zoneTemperature", x.zonesNeeded(), x::zoneTemperature);
+        }
+    }
+
     static void zoneIndexes() {
         c.about("Promise 31", "- index: 0 to zonesNeeded() - 1");
         ColdStores x = Checks.loaded(apart());

@@ -29,6 +29,23 @@ public final class TermsEdgesTest {
         c.end("TermsEdgesTest");
     }
 
+    static void constantNone() {
+        c.about("Examples", "The constants: NONE = -1: There is no such result.");
+        c.same("NONE", ColdStores.NONE, -1);
+    }
+
+    /** Four calls until the text is loaded, then 127 times four. */
+    static void calls512() {
+        c.about("What it is", "An object is used for at most 512 calls after it has been made");
+        ColdStores x = Checks.loaded("goods p 0 4 60 0 0;pallet p;limits 999 9;quay 5");
+        for (int i = 0; i < 127; i++) {
+            c.same("advance", x.advance(1), 0);
+            c.same("heat", x.heat(0), 10);
+            c.same("undo", x.undo(), 0);
+            c.same("heat", x.heat(0), 0);
+        }
+    }
+
     // ---- section 1
 
     static void sixSortsOfGoods() {

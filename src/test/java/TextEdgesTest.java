@@ -636,6 +636,22 @@ public final class TextEdgesTest {
         c.sameText("the text", Checks.textOf(x), "");
     }
 
+    static void loadOfFewer() {
+        c.about("Promise 5", "Replaces everything by the text in the input buffer.");
+        ColdStores x = Checks.loaded("chamber k 2 2 5;door k 0 0;chamber l 2 2 5;door l 0 0;chamber m 2 2 5;door m 0 0;"
+                + "goods g 0 9 1 9 0;goods h 0 9 1 0 0;pallet g;pallet h;order g 1 1;order g 1 1");
+        x.autoStore();
+        Checks.feed(x, "chamber m 1 1 5;door m 0 0;goods h 0 9 1 0 0;pallet h;pallet h;order h 1 1");
+        x.load();
+        c.numbers("setpoint", 1, x::setpoint);
+        c.numbers("shelfLife", 1, x::shelfLife);
+        c.numbers("heat", 2, x::heat);
+        c.numbers("availableFor", 1, x::availableFor);
+        c.same("only into the new chamber", x.autoStore(), 1);
+        c.same("no cell is left", x.autoStore(), 0);
+        c.same("chamberOf", x.chamberOf(0), 0);
+    }
+
     static void loadBeginsAgain() {
         c.about("Promise 5", "The current day is 0, the pallets of the text are waiting in the order of their"
                 + " statements, no door was opened, and nothing was shipped or discarded.");
