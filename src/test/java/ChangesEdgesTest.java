@@ -526,6 +526,18 @@ public final class ChangesEdgesTest {
         }
     }
 
+    static void autoStoreInTheLastAndTheFirstCell() {
+        c.about("Promise 12", LONGEST);
+        ColdStores x = Checks.loaded("chamber u 6 4 2;door u 0 0;" + PQN + ";pallet n;pallet n");
+        x.autoStore();
+        c.same("the last cell", x.cellOf(0), 53);
+        c.same("the lower row of two", x.cellOf(1), 43);
+        ColdStores y = Checks.loaded("chamber u 6 4 2;door u 5 3;" + PQN + ";pallet n;pallet n");
+        y.autoStore();
+        c.same("the first cell", y.cellOf(0), 0);
+        c.same("the lower row of two", y.cellOf(1), 1);
+    }
+
     static void autoStoreAmongEqualOnes() {
         c.about("Promise 12", LONGEST);
         ColdStores x = Checks.loaded("chamber u 1 1 9;door u 0 0;chamber v 3 3 2;door v 1 1;chamber w 2 2 2;"
