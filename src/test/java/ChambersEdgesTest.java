@@ -602,6 +602,49 @@ public final class ChambersEdgesTest {
         return best;
     }
 
+    /** Large chambers with pallets here and there; all sets of cells for the first goods are tried. */
+    static void mostPairsInLargeChambers() {
+        c.about("Promise 53", "could be added in free cells of a chamber so that, of all pallets in it then, no pallet"
+                + " is in a cell neighbouring that of a pallet which it taints. Ways do not matter.");
+        int[][] sizes = {{4, 4}, {6, 3}, {5, 4}, {6, 4}};
+        for (int[] size : sizes) {
+            int cells = size[0] * size[1];
+            for (int step = 5; step <= 19; step += 2) {
+                ColdStores x = Checks.loaded("chamber u " + size[0] + " " + size[1] + " 0" + doorsInAll(size) + ";" + PQN
+                        + ";pallet p;pallet q;pallet n;pallet p;pallet q;pallet n");
+                for (int pallet = 0; pallet < 6; pallet++) {
+                    int cell = (step * pallet + step / 3) % cells;
+                    if (x.storeProblem(pallet, 0, cell / size[1], cell % size[1]) == 0) {
+                        x.store(pallet, 0, cell / size[1], cell % size[1]);
+                    }
+                }
+                c.same("apart in " + size[0] + " by " + size[1] + ", step " + step, x.mostPairs(0, 0, 1),
+                        mostBesideSets(x.safeCells(0, 0), x.safeCells(0, 1), size[1]));
+            }
+        }
+    }
+
+    private static String doorsInAll(int[] size) {
+        StringBuilder doors = new StringBuilder();
+        for (int cell = 0; cell < size[0] * size[1]; cell++) {
+            doors.append(";door u ").append(cell / size[1]).append(" ").append(cell % size[1]);
+        }
+        return doors.toString();
+    }
+
+    private static int mostBesideSets(int first, int second, int columns) {
+        int leftmost = 0;
+        for (int cell = 0; cell < 24; cell += columns) {
+            leftmost |= 1 << cell;
+        }
+        int best = 0;
+        for (int set = first; set != 0; set = set - 1 & first) {
+            int taken = set | set << columns | set >> columns | set << 1 & ~leftmost | (set & ~leftmost) >> 1;
+            best = Math.max(best, Math.min(Integer.bitCount(set), Integer.bitCount(second & ~taken)));
+        }
+        return best;
+    }
+
     static void pairsOfNoChamberOrGoods() {
         c.about("Promise 53", "Throws IndexOutOfBoundsException if the chamber or the goods do not exist (checked"
                 + " first)");
